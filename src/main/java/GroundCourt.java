@@ -385,10 +385,10 @@ public final class GroundCourt {
         if (root == NONE || what < 0 || what > 2) {
             return NONE;
         }
-        int least = leastNeeds(root);
-        if (least == CANNOT) {
+        if (depthWithHand(root) == CANNOT) {
             return CANNOT;
         }
+        int least = leastNeeds(root);
         return what == 0 ? least >> 6 : what == 1 ? least >> 3 & 7 : least & 7;
     }
 
@@ -1280,14 +1280,17 @@ public final class GroundCourt {
             }
         }
 
+        /** By far the dearest loop: it goes without calls that others make. */
         private void bySplit(int[] row, int[] first, int[] second) {
             int count = law.stockCount();
             for (int some = 0; some < count; some++) {
-                if (first[some] > 0) {
+                int mine = first[some];
+                if (mine > 0) {
                     for (int all = some; all < count; all = nextAbove(all, some)) {
                         int other = second[all - some];
-                        if (other > 0) {
-                            improve(row, all, Math.max(first[some], other));
+                        int below = mine > other ? mine : other;
+                        if (other > 0 && (row[all] == 0 || row[all] > below + 1)) {
+                            row[all] = below + 1;
                         }
                     }
                 }

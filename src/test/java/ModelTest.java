@@ -119,7 +119,10 @@ public final class ModelTest {
         for (int i = 0; i < times; i++) {
             int at = upTo(s.length());
             int to = Math.min(s.length(), at + upTo(4));
-            switch (random.nextInt(6)) {
+            switch (random.nextInt(9)) {
+                case 6:
+                case 7:
+                case 8: s = withTokenOfItsKind(s); break;
                 case 0: s = s.substring(0, at); break;
                 case 1: s = s.substring(0, at) + s.substring(to); break;
                 case 2: s = s.substring(0, at) + JUNK[random.nextInt(JUNK.length)] + s.substring(at); break;
@@ -137,6 +140,27 @@ public final class ModelTest {
         SlowCourt.Token u = tokens.get(random.nextInt(tokens.size()));
         String with = chance(50) ? u.text() : JUNK[random.nextInt(JUNK.length)];
         return s.substring(0, t.place()) + " " + with + " " + s.substring(t.place() + t.text().length());
+    }
+
+    /** So that a text is often well formed and wrong all the same. */
+    private String withTokenOfItsKind(String s) {
+        List<SlowCourt.Token> names = new ArrayList<>();
+        List<SlowCourt.Token> ints = new ArrayList<>();
+        for (SlowCourt.Token t : SlowCourt.tokens(s)) {
+            if (SlowCourt.isName(t)) {
+                names.add(t);
+            } else if (SlowCourt.isInt(t)) {
+                ints.add(t);
+            }
+        }
+        List<SlowCourt.Token> some = chance(70) || ints.isEmpty() ? names : ints;
+        if (some.isEmpty()) {
+            return s;
+        }
+        SlowCourt.Token t = some.get(random.nextInt(some.size()));
+        String with = some == ints ? String.valueOf(chance(50) ? upTo(5) : 98 + upTo(3))
+                : some.get(random.nextInt(some.size())).text();
+        return s.substring(0, t.place()) + with + s.substring(t.place() + t.text().length());
     }
 
     private void feed(String s) {

@@ -65,6 +65,8 @@ public final class TextTest {
         CHECK.text("ground a 0005 0002;", 0, -1);
         CHECK.text("ground a 00005 2;", 1, 9);
         CHECK.text("ground a 5;", 1, 10);
+        CHECK.text("ground a 5 ground b 1 1;", 1, 11);
+        CHECK.text("ground ground b 1 1;", 1, 7);
         CHECK.text("ground 5 5 2;", 1, 7);
         CHECK.text("ground A 5 2;", 1, 7);
         CHECK.text("ground a-5 2;", 1, 8);
@@ -73,6 +75,14 @@ public final class TextTest {
         CHECK.text("oath o nothing gives nothing or nothing;", 1, 29);
         CHECK.text("bargain o nothing gives nothing or nothing;", 0, -1);
         CHECK.text("bargain o nothing gives nothing or nothing or nothing;", 1, 43);
+        CHECK.text("bargain o nothing gives nothing or ground b 1 1;", 1, 35);
+        CHECK.text("bargain o nothing gives ground b 1 1;", 1, 24);
+        CHECK.text("oath o nothing ground b 1 1;", 1, 15);
+        CHECK.text("oath o ground b 1 1;", 1, 7);
+        CHECK.text("claim k 1 = ground b 1 1;", 1, 12);
+        CHECK.text("claim k 1 = rest ground b 1 1;", 1, 17);
+        CHECK.text("claim k 1 = rest * ground b 1 1;", 1, 19);
+        CHECK.text("claim k ground b 1 1;", 1, 8);
         CHECK.text("claim k 1 = (rest;", 1, 17);
         CHECK.text("claim k 1 = rest);", 1, 16);
         CHECK.text("claim k 1 = rest rest;", 1, 17);
@@ -92,6 +102,15 @@ public final class TextTest {
         for (String word : words) {
             CHECK.text("ground " + word + " 1 1;", 1, 7);
         }
+    }
+
+    private static void likeNames() {
+        GroundCourt court = Check.told("ground a 1 0;ground aa 2 0;ground aaaaaaaa 3 0;ground aaaaaaab 4 0;"
+                + "claim ab 1 = aa;claim ba 1 = aaaaaaab * aaaaaaaa * a;");
+        CHECK.same("aa", court.point(0, 1), 1);
+        CHECK.same("aaaaaaab", court.point(1, 1), 3);
+        CHECK.same("aaaaaaaa", court.point(2, 1), 2);
+        CHECK.same("a", court.point(4, 1), 0);
     }
 
     private static void roomForTells() {
@@ -278,6 +297,7 @@ public final class TextTest {
         tape();
         syntax();
         wordsThatAreNames();
+        likeNames();
         roomForTells();
         roomForTokens();
         roomForPoints();
