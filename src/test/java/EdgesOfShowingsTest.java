@@ -69,6 +69,18 @@ public final class EdgesOfShowingsTest {
         }
     }
 
+    private static void whatSplitNames() {
+        CHECK.about("SPLIT names what goes to the first part, and in ( ) its BARGAINS");
+        CHECK.passes(court("b*(a*a)"), "split b () is split a () is is");
+        CHECK.fails(court("b*(a*a)"), 7, "split a+a () @is split a () is is");
+        CHECK.passes(court("rest*rest", 0, 2), "split b (q) use q rest rest");
+        CHECK.passes(court("rest*rest", 0, 2), "split b () rest use q rest");
+        CHECK.fails(court("rest*rest", 0, 2), 8, "split b (q) rest @use q rest");
+        CHECK.fails(court("rest*rest", 0, 2), 8, "split b () @use q rest rest");
+        CHECK.passes(court("nothing*rest"), "split nothing () none rest");
+        CHECK.passes(court("rest*nothing"), "split a+a+b (p q each) rest none");
+    }
+
     private static void oneOrTwoBelowUse() {
         CHECK.about("USE an OATH or a BARGAIN (with two SIDES to give: two S).");
         CHECK.fails(court("rest"), 1, "use p rest@");
@@ -443,6 +455,7 @@ public final class EdgesOfShowingsTest {
 
     public static void main(String[] args) {
         stepsToldAsTexts();
+        whatSplitNames();
         oneOrTwoBelowUse();
         wordsThatAreNames();
         ofAClaim();
