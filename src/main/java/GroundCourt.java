@@ -1285,14 +1285,14 @@ public final class GroundCourt {
             int count = law.stockCount();
             for (int some = 0; some < count; some++) {
                 int mine = first[some];
-                if (mine > 0) {
-                    for (int all = some; all < count; all = nextAbove(all, some)) {
-                        int other = second[all - some];
-                        int below = mine > other ? mine : other;
-                        if (other > 0 && (row[all] == 0 || row[all] > below + 1)) {
-                            row[all] = below + 1;
-                        }
+                int all = mine > 0 ? some : count;
+                for (int n = 0; n < count && all < count; n++) {
+                    int other = second[all - some];
+                    int below = mine > other ? mine : other;
+                    if (other > 0 && (row[all] == 0 || row[all] > below + 1)) {
+                        row[all] = below + 1;
                     }
+                    all = nextAbove(all, some);
                 }
             }
         }
@@ -1731,13 +1731,13 @@ public final class GroundCourt {
             int here = at(claim, all);
             int behind = at(claim + 1, all - some);
             for (int stock = 0; stock <= settled.stock; stock++) {
-                if (row[stock] > 0) {
-                    for (int whole = stock; whole <= settled.stock; whole = nextAbove(whole, stock)) {
-                        int rest = best[behind + whole - stock];
-                        if (rest != IMPOSSIBLE && rest + value > best[here + whole]) {
-                            best[here + whole] = rest + value;
-                        }
+                int whole = row[stock] > 0 ? stock : STOCKS;
+                for (int n = 0; n < STOCKS && whole <= settled.stock; n++) {
+                    int rest = best[behind + whole - stock];
+                    if (rest != IMPOSSIBLE && rest + value > best[here + whole]) {
+                        best[here + whole] = rest + value;
                     }
+                    whole = nextAbove(whole, stock);
                 }
             }
         }

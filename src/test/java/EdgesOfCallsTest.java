@@ -210,6 +210,10 @@ public final class EdgesOfCallsTest {
         passed(court, 3, 3, 2);
         CHECK.showing(court, 0, "split a+a () split a () is is is", 0, -1);
         passed(court, 5, 3, 0);
+        CHECK.showing(court, 2, "rest", 0, -1);
+        passed(court, 1, 1, 0);
+        CHECK.showing(court, 0, "split a+a () split a () is is is", 0, -1);
+        passed(court, 5, 3, 0);
         court.put(0, 0);
         court.judge(7);
         passed(court, 5, 3, 0);

@@ -119,6 +119,12 @@ public final class EdgesOfCourtTest {
         together(bargains, 10, 3);
         bargains.bargain(2, false);
         together(bargains, 5, 1);
+        GroundCourt oath = Check.told("ground a 1 1;ground b 1 0;oath o a gives b;claim k 5=b;claim m 2=a;");
+        together(oath, 5, 1);
+        oath.oath(0, false);
+        together(oath, 2, 2);
+        oath.oath(0, true);
+        together(oath, 5, 1);
         together(Check.told("ground a 1 1;claim k 3=a;claim m 3=a;"), 3, 1);
         together(Check.told("ground a 1 1;claim k 3=a;claim m 4=a;"), 4, 2);
         together(Check.told("ground a 1 1;ground b 1 1;claim k 5=a*b;claim m 2=a;claim n 3=b;"), 5, 1);
@@ -191,6 +197,13 @@ public final class EdgesOfCourtTest {
         needed(off, 0, 2, 3, 0);
         off.oath(1, false);
         needed(off, 0, -2, -2, -2);
+        GroundCourt low = Check.told(one + "oath o a gives b;oath n a gives b;bargain p a gives b;bargain q a gives b;claim k 1=b;");
+        low.bargain(0, false);
+        needed(low, 0, 1, 0, 2);
+        low.bargain(1, false);
+        needed(low, 0, 1, 1, 0);
+        low.oath(0, false);
+        needed(low, 0, 1, 2, 0);
         GroundCourt all = Check.told(grounds(1, 0) + "oath o a gives d;oath n b gives d;oath l c gives d;"
                 + "bargain p nothing gives a;bargain q nothing gives b;bargain r nothing gives c;claim k 1=d*d*d;");
         needed(all, 0, 6, 7, 7);

@@ -180,6 +180,11 @@ public final class EdgesOfStepsTest {
         depth(once, 1, 0, 0);
         depth(once, 1, 1, 2);
         leads(once, 2, 1, 0, place(0, 5, 0));
+        GroundCourt three = court("bargain p a gives b;bargain q a gives b;bargain r a gives b;", "c");
+        for (int bargain = 0; bargain < 3; bargain++) {
+            CHECK.same("BARGAIN " + bargain, three.move(0, 1, 7, bargain, 0), 20 + bargain);
+            leads(three, 1, 7, bargain, place(0, 4, 7 - (1 << bargain)));
+        }
         depth(court("bargain p a gives b;", "b*b"), 2, 1, 0);
         depth(court("bargain p a gives b;bargain q a gives b;", "b*b"), 2, 3, 3);
         depth(court("bargain p a gives b;bargain q b gives c;", "c"), 1, 3, 3);

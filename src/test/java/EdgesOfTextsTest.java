@@ -103,6 +103,20 @@ public final class EdgesOfTextsTest {
         CHECK.fine(text + tokens[tokens.length - 1]);
     }
 
+    /** One of the TOKENS of a TELL is left out: that behind it stands where it can't; what is wrong later is not told. */
+    private static void dropped(String tell) {
+        String[] tokens = (tell + " $").split(" ");
+        for (int out = 0; out < tokens.length - 1; out++) {
+            StringBuilder text = new StringBuilder(GROUND);
+            for (int i = 0; i < tokens.length; i++) {
+                if (i != out) {
+                    text.append(i == out + 1 ? " @" : " ").append(tokens[i]);
+                }
+            }
+            CHECK.fault(1, text.toString());
+        }
+    }
+
     private static void tells() {
         CHECK.about("text: {TELL}.");
         CHECK.fine("");
@@ -116,17 +130,31 @@ public final class EdgesOfTextsTest {
         }
         CHECK.about("TELL: 'ground' NAME INT INT ';'");
         cut("ground b 2 2 ;");
+        CHECK.fault(1, GROUND + "@b 2 2; $");
+        CHECK.fault(1, GROUND + "ground @2 2; $");
+        CHECK.fault(1, GROUND + "ground b 2 @; $");
+        CHECK.fault(1, GROUND + "ground b 2 2 @$");
         CHECK.fault(1, "ground a 1 1 @1;");
         CHECK.about("'oath' NAME SIDE 'gives' SIDE ';'");
         cut("oath o a + a gives a ;");
+        dropped("oath o nothing gives a ;");
+        CHECK.fault(1, GROUND + "oath o a @; $");
+        CHECK.fault(1, GROUND + "oath o @; $");
         CHECK.fault(1, "oath o nothing gives nothing @or nothing;");
         CHECK.about("'bargain' NAME SIDE 'gives' SIDE ['or' SIDE] ';'");
         cut("bargain p a gives nothing ;");
         cut("bargain p nothing gives a or a + a ;");
+        dropped("bargain p nothing gives a or nothing ;");
+        CHECK.fault(1, GROUND + "bargain p a gives @; $");
+        CHECK.fault(1, GROUND + "bargain p a gives a or @; $");
         CHECK.fault(1, "bargain p nothing gives nothing or nothing @or nothing;");
         CHECK.fault(1, "bargain p nothing gives nothing @any nothing;");
         CHECK.about("'claim' NAME INT '=' C ';'");
         cut("claim k 1 = rest ;");
+        dropped("claim k 1 = rest ;");
+        dropped("claim k 1 = nothing * a ;");
+        CHECK.fault(1, "ground a @; $");
+        CHECK.fault(1, "ground a 1 @; $");
         CHECK.fault(1, "claim k @= rest;");
     }
 
@@ -319,6 +347,38 @@ public final class EdgesOfTextsTest {
         CHECK.fault(1, manyTokens() + "claim k 1=ever(rest)@");
         CHECK.fault(1, manyTokens() + "claim k 1=ever(rest)@)");
         CHECK.fault(1, manyTokens() + "claim k 1=(rest*rest@];");
+    }
+
+    /** So many TOKENS, without a FAULT of 1 and 2. */
+    private static String padding(int tokens) {
+        String odd = "ground a 1 1;oath z a" + "+a".repeat((tokens - 11) / 2 - (tokens % 2 == 0 ? 3 : 0)) + " gives nothing;";
+        return tokens % 2 == 0 ? odd + "claim zz 1=ever rest;" : odd;
+    }
+
+    /** Each TOKEN of a TELL as the 401st one. */
+    private static void atEachToken(String tell) {
+        String[] tokens = tell.split(" ");
+        for (int ahead = 0; ahead < tokens.length; ahead++) {
+            StringBuilder text = new StringBuilder(padding(400 - ahead));
+            for (int i = 0; i < tokens.length; i++) {
+                text.append(i == ahead ? " @" : " ").append(tokens[i]);
+            }
+            CHECK.fault(2, text + " $");
+        }
+    }
+
+    private static void theTokenAfterFourHundred() {
+        CHECK.about("2 ROOM: a 401st TOKEN;");
+        CHECK.fault(5, padding(399).replace("z a+a+a+", "z a+a+a+@"));
+        CHECK.fault(5, padding(400).replace("z a+a+a+", "z a+a+a+@"));
+        CHECK.fault(1, padding(400) + "@$");
+        atEachToken("ground b 1 1 ;");
+        atEachToken("oath o a + a gives a + a ;");
+        atEachToken("oath o nothing gives nothing ;");
+        atEachToken("bargain p a gives a or a + a ;");
+        atEachToken("bargain p nothing gives nothing or nothing ;");
+        atEachToken("claim k 1 = a * [ a + a ] ( ever nothing any rest ) or a ;");
+        atEachToken("claim k 1 = [ nothing ] a ;");
     }
 
     private static final String[] TELLS = {"ground X 1 1;", "oath X nothing gives nothing;",
@@ -525,6 +585,33 @@ public final class EdgesOfTextsTest {
         CHECK.same("BARGAINS", three.count(7), 0);
     }
 
+    /** What was read of texts with FAULTS, and of the one ahead, is not in the one that comes behind. */
+    private static void textsBehindTexts() {
+        CHECK.about("A text with a FAULT changes nothing but the tape; else it is in place of the one ahead");
+        String early = "ground a 9 3;ground c 9 3;oath o a gives c;bargain p a gives c or a;claim k 9=rest;claim m 9=a*c or rest;";
+        String later = "ground b 1 1;oath r b gives b;bargain s b gives b;claim t 5=b;";
+        GroundCourt court = new GroundCourt();
+        for (String text : new String[] {early + "$", early, early + "claim m 1=rest;", early + "claim n 1=z;", later}) {
+            Check.feed(court, text);
+            court.read();
+            court.stocks(0);
+            court.stocks(1);
+        }
+        CHECK.same("as on a new object", State.andPlace(court), State.andPlace(Check.told(later)));
+        CHECK.same("stocks(0)", court.stocks(0), 1);
+        CHECK.same("POINTS", court.point(0, 0), 0);
+        CHECK.same("POINTS", court.point(1, 0), -1);
+        Check.feed(court, "ground b 1 1;oath r b gives b;bargain s b gives b;claim t 6=nothing;");
+        CHECK.same("read", court.read(), 0);
+        CHECK.same("can(0)", court.can(0), -2);
+        CHECK.same("together(0)", court.together(0), -2);
+        Check.feed(court, "ground k 1 1;oath a k gives k;bargain b k gives k;claim c 7=k;");
+        CHECK.same("NAMES of texts ahead are free", court.read(), 0);
+        CHECK.same("together(0)", court.together(0), 7);
+        Check.feed(court, "ground k 1 1;claim c 7=b;");
+        CHECK.same("and are no GROUNDS", court.read(), 4);
+    }
+
     public static void main(String[] args) {
         atMostTwoThousandBytes();
         theLongestThatCanBe();
@@ -541,6 +628,7 @@ public final class EdgesOfTextsTest {
         points();
         theFirstByItsPlace();
         tokens();
+        theTokenAfterFourHundred();
         tooManyTells();
         tooManyPoints();
         nestedTooDeep();
@@ -549,6 +637,7 @@ public final class EdgesOfTextsTest {
         wrong();
         changesNothing();
         isInPlaceOfTheOneAhead();
+        textsBehindTexts();
         CHECK.finish("EdgesOfTextsTest");
     }
 }

@@ -348,7 +348,7 @@ public final class ModelTest {
         if (chance(90)) {
             tellText();
         }
-        while (calls < 470) {
+        while (calls < 390) {
             if (chance(slow.text.roots.isEmpty() ? 10 : 2)) {
                 tellText();
             } else if (chance(10)) {
