@@ -48,6 +48,18 @@ public final class LanguageTest {
         }
     }
 
+    /** Rule 9: the end of each loop is seen from its own lines, a counter that goes by a fixed number. */
+    private static void loops(String code) {
+        Matcher loops = Pattern.compile("\\bfor \\((.*)\\) \\{").matcher(code);
+        int found = 0;
+        while (loops.find()) {
+            String update = loops.group(1).replaceAll(".*; ", "");
+            CHECK.same("loop by a counter: " + loops.group(), update.matches("\\w+(\\+\\+|--| [-+]= \\d+)"), true);
+            found++;
+        }
+        CHECK.same("loops were found", found > 30, true);
+    }
+
     private static void face() {
         TreeSet<String> names = new TreeSet<>();
         for (Method method : GroundCourt.class.getDeclaredMethods()) {
@@ -117,6 +129,7 @@ public final class LanguageTest {
         String code = withoutComments(source);
         words(code);
         calledAlone(code);
+        loops(code);
         face();
         inside();
         shortMethods(source);
