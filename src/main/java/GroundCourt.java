@@ -1656,7 +1656,8 @@ public final class GroundCourt {
      * tells the set. The best for the CLAIMS from one on is kept by BARGAINS and STOCKS.
      */
     private static final class Parting {
-        private static final int IMPOSSIBLE = Integer.MIN_VALUE;
+        /** Below all that a set can be worth. */
+        private static final int IMPOSSIBLE = -1000000;
 
         final Depths depths;
         /** What was at hand when all this was found; held: it still holds. */

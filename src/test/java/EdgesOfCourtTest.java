@@ -132,6 +132,8 @@ public final class EdgesOfCourtTest {
         together(Check.told("ground a 1 1;claim k 0=nothing;claim m 0=a;claim n 0=rest;"), 0, 2);
         together(Check.told("ground a 1 3;claim k 99=rest;claim m 99=rest;claim n 99=rest;claim r 99=rest;claim s 99=rest;"
                 + "claim t 99=rest;"), 6 * 99, 63);
+        together(Check.told(grounds(1, 3) + "claim k 5=nothing;claim m 3=rest;"), 8, 3);
+        together(Check.told(grounds(1, 3) + "claim k 5=rest;claim m 3=nothing;"), 8, 3);
         CHECK.about("-2 if there is none (the empty set is one with the empty STOCK).");
         together(Check.told("ground a 1 0;claim k 5=a;"), 0, 0);
         together(Check.told("ground a 1 1;claim k 5=nothing;"), -2, -2);

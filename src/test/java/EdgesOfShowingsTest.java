@@ -448,6 +448,8 @@ public final class EdgesOfShowingsTest {
         CHECK.same("one below the other", each.passed(2), 0);
         CHECK.passes(each, "each use o use back rest use back use o rest");
         CHECK.same("in both parts", each.passed(2), 4);
+        CHECK.passes(each, "each use use use use rest use use rest");
+        CHECK.same("a row ends with its own last place", each.passed(2), 3);
         GroundCourt cases = court("rest");
         CHECK.passes(cases, "use o use p use back rest use use rest");
         CHECK.same("in both cases", cases.passed(2), 1);

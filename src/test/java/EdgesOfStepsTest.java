@@ -86,6 +86,10 @@ public final class EdgesOfStepsTest {
                 + " others.");
         depth(court("", "nothing*a"), 1, 0, 2);
         depth(court("", "a*nothing"), 1, 0, 2);
+        depth(court("", "nothing*rest"), 255, 0, 2);
+        depth(court("", "rest*nothing"), 255, 0, 2);
+        CHECK.same("without GROUNDS", Check.told("claim k 1=nothing*nothing;").can(0), 2);
+        CHECK.same("the full STOCK", Check.told("ground a 1 3;claim k 1=nothing*(a*a*a);").can(0), 4);
         depth(court("", "rest*rest"), 0, 0, 2);
         depth(court("", "rest*rest"), 255, 0, 2);
         String deals = "bargain p nothing gives a;bargain q nothing gives a;";
